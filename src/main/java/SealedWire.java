@@ -1070,6 +1070,7 @@ public final class SealedWire {
             carry();
         }
 
+        /** Leaves 26 bits in each limb but the first, which may have some more. */
         private void carry() {
             for (int i = 0; i < TOP; i++) {
                 q[i + 1] += q[i] >> Limbs.BITS;
@@ -1079,10 +1080,8 @@ public final class SealedWire {
             q[TOP] &= Limbs.MASK;
         }
 
-        /** Two more carries leave 26 bits in each limb; then 5 more tells whether the modulus fits in q. */
+        /** Takes the modulus away where q is not below it: then 5 more has the bit 130. */
         private void settle() {
-            carry();
-            carry();
             long over = OVER;
             for (int i = 0; i < LIMBS; i++) {
                 over = (q[i] + over) >> Limbs.BITS;

@@ -15,6 +15,8 @@ final class ExchangeTest {
         untrusted();
         wrongProof();
         changedOnTheWay();
+        replyTwice();
+        replyByItsBytesAlone();
         secretsAreTakenOnce();
         cookiesAreThoseSent();
         fullWireAtTheServer();
@@ -309,6 +311,41 @@ final class ExchangeTest {
             x.come(1);
             ended("REQUEST changed", x);
         }
+    }
+
+    /** Makes another payload of as many bytes of a packet that goes without keys. */
+    private static void rewrite(SealedWire x, int end, int k, byte[] payload) {
+        for (int i = 0; i < payload.length; i++) {
+            x.damage(end, k, 5 + i, x.packet(end, k, 5 + i) ^ payload[i] & 255);
+        }
+    }
+
+    private static void replyTwice() {
+        SealedWire x = beforeRequest(0);
+        Hands.send(x, 1, Hands.filled(97, 2));
+        CHECK.due("REQUEST", x.come(1), 30);
+        rewrite(x, 0, 0, new Due().reply());
+        CHECK.due("both are the same", Hands.packet(x, 0, 0), Hands.packet(x, 0, 1));
+        CHECK.due("REPLY once", x.come(0), 31);
+        CHECK.due("the client lives", x.about(0, 0), 1);
+        CHECK.due("REPLY twice", x.come(0), -3);
+        CHECK.due("END has the new keys", x.packet(1, 1, -1), 28);
+    }
+
+    private static void replyByItsBytesAlone() {
+        Due due = new Due();
+        SealedWire x = beforeRequest(0);
+        Hands.send(x, 1, Hands.filled(97, 2));
+        rewrite(x, 0, 0, due.reply());
+        CHECK.due("REPLY before REQUEST came", x.come(0), 31);
+        CHECK.due("the client's session", Hands.session(x, 0), Hands.hex(due.h));
+        Hands.send(x, 0, Hands.bytes(94));
+        CHECK.due("REQUEST, NEW, DATA", x.about(1, 5), 3);
+        CHECK.due("and its keys", Hands.packet(x, 1, 2), Hands.hex(Model.sealedPacket(Hands.bytes(94), due.keys(0), 3)));
+        CHECK.due("REQUEST", x.come(1), 30);
+        CHECK.due("NEW", x.come(1), 21);
+        CHECK.due("DATA", x.come(1), 94);
+        CHECK.due("REPLY again", x.come(0), -3);
     }
 
     private static void secretsAreTakenOnce() {

@@ -17,7 +17,7 @@ import javax.crypto.spec.SecretKeySpec;
  * those of the Java library, a packet is whole if its payload makes just this packet again.
  */
 public final class Model {
-    private static final BigInteger P = BigInteger.ONE.shiftLeft(255).subtract(BigInteger.valueOf(19));
+    static final BigInteger P = BigInteger.ONE.shiftLeft(255).subtract(BigInteger.valueOf(19));
     private static final BigInteger TAG_P = BigInteger.ONE.shiftLeft(130).subtract(BigInteger.valueOf(5));
     private static final Map<String, byte[]> PRODUCTS = new HashMap<>();
 
@@ -82,8 +82,14 @@ public final class Model {
     }
 
     private static byte[] ladder(byte[] kRow, byte[] uRow) {
-        BigInteger k = little(kRow).clearBit(0).clearBit(1).clearBit(2).clearBit(255).setBit(254);
-        BigInteger u = little(uRow).clearBit(255).mod(P);
+        return little(ladder(clamped(kRow), little(uRow).clearBit(255).mod(P)), 32);
+    }
+
+    static BigInteger clamped(byte[] kRow) {
+        return little(kRow).clearBit(0).clearBit(1).clearBit(2).clearBit(255).setBit(254);
+    }
+
+    static BigInteger ladder(BigInteger k, BigInteger u) {
         BigInteger x2 = BigInteger.ONE;
         BigInteger z2 = BigInteger.ZERO;
         BigInteger x3 = u;
@@ -119,7 +125,7 @@ public final class Model {
                 z3 = z;
             }
         }
-        return little(x2.multiply(z2.modPow(P.subtract(BigInteger.TWO), P)).mod(P), 32);
+        return x2.multiply(z2.modPow(P.subtract(BigInteger.TWO), P)).mod(P);
     }
 
     static byte[] publicRow(byte[] secret) {

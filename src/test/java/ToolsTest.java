@@ -1,3 +1,4 @@
+import java.math.BigInteger;
 import java.util.Random;
 
 /** Promises 1 to 8: a new object, the tape, and what comes out of it. */
@@ -11,6 +12,7 @@ final class ToolsTest {
         multiplyKnown();
         multiplyEdges();
         multiplyDrawn();
+        multiplyToEdges();
         hash();
         stream();
         tag();
@@ -159,6 +161,27 @@ final class ToolsTest {
             random.nextBytes(u);
             product("drawn", Hands.hex(k), Hands.hex(u), Hands.hex(Model.product(k, u)));
         }
+    }
+
+    /** Products that are just above 0 or below P: where a number may be P or more inside. */
+    private static void multiplyToEdges() {
+        BigInteger[] orders = {
+            BigInteger.ONE.shiftLeft(252).add(new BigInteger("27742317777372353535851937790883648493")),
+            BigInteger.ONE.shiftLeft(253).subtract(new BigInteger("55484635554744707071703875581767296995"))
+        };
+        byte[] k = Hands.counted(32, 17);
+        int found = 0;
+        for (int i = -60; i < 60; i++) {
+            BigInteger due = BigInteger.valueOf(i).mod(Model.P);
+            for (BigInteger order : orders) {
+                BigInteger u = Model.ladder(Model.clamped(k).modInverse(order), due);
+                if (Model.ladder(Model.clamped(k), u).equals(due)) {
+                    product("to " + i, Hands.hex(k), Hands.hex(Model.little(u, 32)), Hands.hex(Model.little(due, 32)));
+                    found++;
+                }
+            }
+        }
+        CHECK.isTrue("there are such products: " + found, found > 20);
     }
 
     private static void hash() {
