@@ -6,6 +6,12 @@ final class Check {
 
     private int wrong;
     private int looked;
+    private String sentence = "";
+
+    /** What is looked at from now on comes from this sentence of the document. */
+    void of(String text) {
+        sentence = "\"" + text + "\": ";
+    }
 
     void due(String what, long got, long want) {
         looked++;
@@ -43,7 +49,7 @@ final class Check {
     private void tell(String text) {
         wrong++;
         if (wrong <= 50) {
-            System.out.println(text);
+            System.out.println(sentence + text);
         }
     }
 

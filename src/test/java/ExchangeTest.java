@@ -24,29 +24,6 @@ final class ExchangeTest {
         CHECK.close();
     }
 
-    /** What an exchange of Hands.ready() comes to, by the words of the document. */
-    private static final class Due {
-        final byte[] clientPublic = Model.publicRow(Hands.clientSecret());
-        final byte[] serverPublic = Model.publicRow(Hands.serverSecret());
-        final byte[] hostRow = Model.publicRow(Hands.hostSecret());
-        final byte[] shared = Model.product(Hands.clientSecret(), serverPublic);
-        final byte[] h = Model.digest(Hands.bytes(20), Hands.counted(8, 60), Hands.bytes(20), Hands.counted(8, 80),
-                hostRow, clientPublic, serverPublic, shared);
-        final byte[] proof = Model.digest(Model.product(Hands.hostSecret(), clientPublic), h);
-
-        byte[] key(int mark) {
-            return Model.digest(shared, h, Hands.bytes(mark), h);
-        }
-
-        byte[][] keys(int end) {
-            return end == 0 ? new byte[][] {key(65), key(66)} : new byte[][] {key(67), key(68)};
-        }
-
-        byte[] reply() {
-            return Model.join(Hands.bytes(31), hostRow, serverPublic, proof);
-        }
-    }
-
     private static String plain(byte[]... rows) {
         return Hands.hex(Model.sealedPacket(Model.join(rows), null, 0));
     }
@@ -253,20 +230,13 @@ final class ExchangeTest {
         CHECK.due(what + ": END comes", x.come(1), 1);
     }
 
-    private static SealedWire atReply() {
-        SealedWire x = Hands.ready();
-        x.begin(0);
-        x.run(3);
-        return x;
-    }
-
     private static void untrusted() {
-        SealedWire x = atReply();
+        SealedWire x = Hands.atReply();
         byte[] other = Model.publicRow(Hands.hostSecret());
         other[31] ^= 1;
         Hands.set(x, 3, other);
         ended("another row is trusted", x);
-        SealedWire y = atReply();
+        SealedWire y = Hands.atReply();
         Hands.set(y, 3, other);
         Hands.set(y, 3, Model.publicRow(Hands.hostSecret()));
         CHECK.due("the right one again", y.come(0), 31);
@@ -280,7 +250,7 @@ final class ExchangeTest {
 
     private static void wrongProof() {
         for (int i = 0; i < 97; i++) {
-            SealedWire x = atReply();
+            SealedWire x = Hands.atReply();
             x.damage(0, 0, 5 + i, 128);
             if (i > 0) {
                 ended("REPLY changed at " + i, x);
@@ -313,18 +283,11 @@ final class ExchangeTest {
         }
     }
 
-    /** Makes another payload of as many bytes of a packet that goes without keys. */
-    private static void rewrite(SealedWire x, int end, int k, byte[] payload) {
-        for (int i = 0; i < payload.length; i++) {
-            x.damage(end, k, 5 + i, x.packet(end, k, 5 + i) ^ payload[i] & 255);
-        }
-    }
-
     private static void replyTwice() {
-        SealedWire x = beforeRequest(0);
+        SealedWire x = Hands.beforeRequest(0);
         Hands.send(x, 1, Hands.filled(97, 2));
         CHECK.due("REQUEST", x.come(1), 30);
-        rewrite(x, 0, 0, new Due().reply());
+        Hands.rewrite(x, 0, 0, new Due().reply());
         CHECK.due("both are the same", Hands.packet(x, 0, 0), Hands.packet(x, 0, 1));
         CHECK.due("REPLY once", x.come(0), 31);
         CHECK.due("the client lives", x.about(0, 0), 1);
@@ -334,9 +297,9 @@ final class ExchangeTest {
 
     private static void replyByItsBytesAlone() {
         Due due = new Due();
-        SealedWire x = beforeRequest(0);
+        SealedWire x = Hands.beforeRequest(0);
         Hands.send(x, 1, Hands.filled(97, 2));
-        rewrite(x, 0, 0, due.reply());
+        Hands.rewrite(x, 0, 0, due.reply());
         CHECK.due("REPLY before REQUEST came", x.come(0), 31);
         CHECK.due("the client's session", Hands.session(x, 0), Hands.hex(due.h));
         Hands.send(x, 0, Hands.bytes(94));
@@ -385,28 +348,17 @@ final class ExchangeTest {
                 Hands.hex(new Due().h).repeat(2));
     }
 
-    /** So many packets to the client before the server gets REQUEST. */
-    private static SealedWire beforeRequest(int packets) {
-        SealedWire x = Hands.ready();
-        x.begin(0);
-        x.run(2);
-        for (int i = 0; i < packets; i++) {
-            Hands.send(x, 1, Hands.bytes(2));
-        }
-        return x;
-    }
-
     private static void fullWireAtTheServer() {
         String h = Hands.hex(new Due().h);
-        SealedWire x = beforeRequest(10);
+        SealedWire x = Hands.beforeRequest(10);
         CHECK.due("REQUEST", x.come(1), 30);
         CHECK.due("REPLY and NEW have room", Hands.about(x, 1), "1 13 2 0 0 0 1 1 -1");
-        SealedWire y = beforeRequest(11);
+        SealedWire y = Hands.beforeRequest(11);
         CHECK.due("REQUEST", y.come(1), 30);
         CHECK.due("NEW is lost", Hands.about(y, 1), "0 13 2 0 0 0 1 1 -1");
         CHECK.due("the session is made", Hands.session(y, 1), h);
         CHECK.due("REPLY is the last", y.packet(0, 11, 5), 31);
-        SealedWire z = beforeRequest(12);
+        SealedWire z = Hands.beforeRequest(12);
         CHECK.due("REQUEST", z.come(1), 30);
         CHECK.due("REPLY is lost", Hands.about(z, 1), "0 13 2 0 0 0 1 1 -1");
         CHECK.due("the session is made all the same", Hands.session(z, 1), h);
@@ -414,14 +366,14 @@ final class ExchangeTest {
     }
 
     private static void fullWireAtTheClient() {
-        SealedWire x = atReply();
+        SealedWire x = Hands.atReply();
         for (int i = 0; i < 12; i++) {
             Hands.send(x, 0, Hands.bytes(2));
         }
         CHECK.due("REPLY", x.come(0), 31);
         CHECK.due("NEW is lost", Hands.about(x, 0), "0 14 2 0 0 1 1 1 -1");
         CHECK.due("the session is made", Hands.session(x, 0), Hands.hex(new Due().h));
-        SealedWire y = atReply();
+        SealedWire y = Hands.atReply();
         for (int i = 0; i < 12; i++) {
             Hands.send(y, 0, Hands.bytes(2));
         }

@@ -89,6 +89,39 @@ final class Hands {
         return text.toString();
     }
 
+    /** All that can be seen of an object without changing it. */
+    static String seen(SealedWire x) {
+        StringBuilder text = new StringBuilder();
+        for (int end = 0; end < 2; end++) {
+            text.append("about ").append(about(x, end));
+            for (int k = 0; k < x.about(end, 5); k++) {
+                text.append(" packet ").append(packet(x, end, k));
+            }
+            text.append(" got ");
+            for (int i = 0; i < x.about(end, 3); i++) {
+                text.append(x.got(end, i)).append(' ');
+            }
+            try {
+                text.append("session ").append(session(x, end));
+            } catch (IllegalStateException e) {
+                text.append("none");
+            }
+        }
+        return text.append(" out ").append(outSeen(x)).toString();
+    }
+
+    private static String outSeen(SealedWire x) {
+        StringBuilder text = new StringBuilder();
+        try {
+            for (int i = 0; i <= 64; i++) {
+                text.append(x.out(i)).append(' ');
+            }
+        } catch (IndexOutOfBoundsException e) {
+            text.append("end");
+        }
+        return text.toString();
+    }
+
     /** An object whose ends know all that they need, and differ in all. */
     static SealedWire ready() {
         SealedWire x = new SealedWire();
@@ -119,5 +152,39 @@ final class Hands {
         x.begin(0);
         x.run(50);
         return x;
+    }
+
+    static SealedWire atReply() {
+        SealedWire x = ready();
+        x.begin(0);
+        x.run(3);
+        return x;
+    }
+
+    /** So many packets to the client before the server gets REQUEST. */
+    static SealedWire beforeRequest(int packets) {
+        SealedWire x = ready();
+        x.begin(0);
+        x.run(2);
+        for (int i = 0; i < packets; i++) {
+            send(x, 1, bytes(2));
+        }
+        return x;
+    }
+
+    /** Makes another payload of as many bytes of a packet that goes without keys. */
+    static void rewrite(SealedWire x, int end, int k, byte[] payload) {
+        for (int i = 0; i < payload.length; i++) {
+            x.damage(end, k, 5 + i, x.packet(end, k, 5 + i) ^ payload[i] & 255);
+        }
+    }
+
+    /** A packet to an end, with a payload that send would refuse: without keys nobody sees the change. */
+    static void disguised(SealedWire x, int from, byte[] payload) {
+        int message = payload[0] & 255;
+        byte[] sent = payload.clone();
+        sent[0] = 2;
+        send(x, from, sent);
+        x.damage(1 - from, x.about(1 - from, 5) - 1, 5, 2 ^ message);
     }
 }

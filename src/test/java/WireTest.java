@@ -253,17 +253,8 @@ final class WireTest {
         CHECK.due("a payload of 201", y.come(0), -2);
     }
 
-    /** A packet to an end, with a payload that send would refuse: without keys nobody sees the change. */
-    private static void disguised(SealedWire x, int from, byte[] payload) {
-        int message = payload[0] & 255;
-        byte[] sent = payload.clone();
-        sent[0] = 2;
-        Hands.send(x, from, sent);
-        x.damage(1 - from, x.about(1 - from, 5) - 1, 5, 2 ^ message);
-    }
-
     private static void refusesDisguised(String what, SealedWire x, int to, byte[] payload) {
-        disguised(x, 1 - to, payload);
+        Hands.disguised(x, 1 - to, payload);
         int sent = x.about(to, 1);
         int before = x.about(to, 5);
         for (int i = 1; i < before; i++) {
@@ -305,7 +296,7 @@ final class WireTest {
         z.begin(0);
         z.run(2);
         CHECK.due("REQUEST", z.come(1), 30);
-        disguised(z, 0, Hands.filled(33, 30));
+        Hands.disguised(z, 0, Hands.filled(33, 30));
         CHECK.due("REQUEST twice", z.come(1), -3);
         SealedWire again = Hands.ready();
         again.begin(0);
@@ -334,13 +325,13 @@ final class WireTest {
             SealedWire x = Hands.ready();
             x.begin(0);
             x.run(3);
-            disguised(x, 0, Hands.filled(size, 21));
+            Hands.disguised(x, 0, Hands.filled(size, 21));
             CHECK.due("NEW of " + size, x.come(1), -3);
         }
         SealedWire x = Hands.ready();
         x.begin(0);
         x.run(3);
-        disguised(x, 0, Hands.filled(1, 21));
+        Hands.disguised(x, 0, Hands.filled(1, 21));
         CHECK.due("NEW of 1", x.come(1), 21);
     }
 
