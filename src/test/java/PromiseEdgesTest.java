@@ -253,6 +253,11 @@ final class PromiseEdgesTest {
         x.multiply();
         lastOut("multiply", x, 32, Model.product(key, key)[31]);
         Hands.type(x, key);
+        x.stream(1, 0);
+        lastOut("stream again", x, 64, Model.streamOf(key, 1, 0)[63]);
+        Hands.type(x, key, key);
+        x.multiply();
+        Hands.type(x, key);
         x.set(0);
         CHECK.refuses("tag of nothing", IllegalArgumentException.class, x::tag);
         lastOut("neither set nor what throws brings anything out", x, 32, Model.product(key, key)[31]);
